@@ -252,7 +252,7 @@ public final class BranchedSums {
         switch (what) {
             case 0: return node == 0 ? NONE : nodes.from(node);
             case 1: return node == 0 ? NONE : nodes.fixed(node);
-            case 2: return node != 0 && has(nodes.in(node), nodes.fixed(node)) ? 1 : 0;
+            case 2: return has(nodes.in(node), nodes.fixed(node)) ? 1 : 0;
             case 3: return nodes.bound(node);
             case 4: return nodes.how(node);
             case 5: return Integer.bitCount(nodes.in(node) | nodes.out(node));
