@@ -25,6 +25,7 @@ final class ChoiceSentences extends Sentences {
             "put 20/10 30/10 40/10 50/10; setRoom 20; begin = 90; branchOf 0 0 = 1; giveUp; setRoom 19; begin; branchOf 0 0 = 2;"
                 + "giveUp; setRoom 39; begin; branchOf 0 0 = 0; giveUp; setRoom 10; begin; branchOf 0 0 = 2",
             "put 50/5 99/50 1/1; setRoom 54; begin; branchOf 0 0 = 1; giveUp; setRoom 55; begin; branchOf 0 0 = 2",
+            "put 9/1 8/2 7/3 6/4; bar 0 1 true; setRoom 9; begin = 28; heelOf 0 0 = 0b1101; branchOf 0 0 = 3; step 1; node 1 1 = 3",
             ENDLESS + "begin; branchOf 0 0 = 5; step 1; branchOf 1 0 = 6; branchOf 2 0 = 4");
     }
 

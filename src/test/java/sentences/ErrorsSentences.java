@@ -30,6 +30,8 @@ final class ErrorsSentences extends Sentences {
         {FIVE + "begin; giveUp; ", "1/1;1/1!6", "addAll = UNKNOWN", "step 1 = NOT_POSSIBLE", "dive = NOT_POSSIBLE", "giveUp = NONE",
             "setRoom 30 = NONE"},
         {"put 12x2/2; ", FULL_TEXT, "add 1 1 = FULL", "add 1 0 = BAD_VALUE", "addAll = -180", "type 49 = FULL", "type 59 = FULL"},
+        {FIVE, "5/5;0/7!9;6/6", "addAll = -104"},
+        {"put 12x1/1; begin; step 1; ", "1/1", "add 1 1 = FULL", "addAll = FULL", "remove 12 = UNKNOWN", "bar 12 0 true = UNKNOWN"},
         {"put 11x2/2; ", "1/1;1/1", "addAll = FULL", "remove 11 = UNKNOWN"},
         {WIDE + "begin; step 199; ", "5/5", "step 1 = FULL", "step 200 = FULL", "dive = FULL", "begin = NOT_POSSIBLE",
             "add 1 1 = NOT_POSSIBLE", "node 399 0 = UNKNOWN", "set 0 2 = NONE"},
@@ -63,6 +65,7 @@ final class ErrorsSentences extends Sentences {
                 .type("1").does("addAll = -108");
             run("put 11x5/5").text("5/5;6/6!10;5/5!").does("addAll = -115").type("9").does("addAll = FULL; remove 0; remove 0;"
                 + "addAll = UNKNOWN; begin; addAll = NOT_POSSIBLE");
+            run("put 5x1/1").text("1/1!9" + ";1/1".repeat(7)).does("addAll = FULL; remove 0; addAll = UNKNOWN");
             run("set 2 3 = UNKNOWN; set -1 0 = UNKNOWN; set 2 0 = UNKNOWN; set 0 3 = BAD_VALUE; set 1 -1 = BAD_VALUE; set 1 0 = NONE");
             run("step 0 = BAD_VALUE; step 201 = BAD_VALUE; step 1 = NOT_POSSIBLE");
             run(WIDE + "begin; step 199; step 0 = BAD_VALUE; step 201 = BAD_VALUE; step 200 = FULL; giveUp; step 200 = NOT_POSSIBLE;"

@@ -66,6 +66,7 @@ final class HistorySentences extends Sentences {
         for (String none : new String[] {"type 49", "clearText", "keep", "thing 0 0", "node 0 0", "next", "branchOf 0 0",
             "boundOf 0 0", "heelOf 0 0", "bestSum", "count 0"}) {
             run(FIVE + "undo; undo; undo; begin; count 15 = 2; " + none + "; count 15 = 2; undo = 1; count 0 = 2; count 6 = 0");
+            run(FIVE + "begin; " + none + "; count 15 = 4; undo = 3; count 0 = 5; count 6 = 0; undo = 2; count 0 = 4");
         }
         run(FIVE + "undo; undo; undo; add 0 1 = BAD_VALUE; bar 0 1 false = NONE; setRoom 30 = NONE; set 0 0 = NONE; giveUp = NONE;"
             + "restore = NONE; remove 7 = UNKNOWN; step 1 = NOT_POSSIBLE; dive = NOT_POSSIBLE; addAll = -100; count 15 = 1");

@@ -36,9 +36,9 @@ final class SearchActsSentences extends Sentences {
         sentence("value: 0 to 2", "set 0 1 = 0; set 0 2 = 1; set 0 0 = 2; set 1 1 = 0; set 1 2 = 1; set 1 0 = 2; set 1 3 = BAD_VALUE");
         sentence("Returns the previous one;", "set 0 2 = 0; set 0 1 = 2; set 1 1 = 0; set 1 2 = 1; set 0 0 = 1; set 1 0 = 2");
         sentence("UNKNOWN (which)", "set 2 0 = UNKNOWN; set -1 0 = UNKNOWN; set least 1 = UNKNOWN; set most 1 = UNKNOWN;"
-            + "set 2 3 = UNKNOWN; set -1 -1 = UNKNOWN; count 15 = 0");
+            + "set 2 3 = UNKNOWN; set -1 -1 = UNKNOWN; set 32 1 = UNKNOWN; set 257 1 = UNKNOWN; count 15 = 0");
         sentence("BAD_VALUE", "set 0 3 = BAD_VALUE; set 0 -1 = BAD_VALUE; set 1 3 = BAD_VALUE; set 1 -1 = BAD_VALUE;"
-            + "set 0 least = BAD_VALUE; set 1 most = BAD_VALUE; count 3 = 0; count 4 = 0; count 15 = 0");
+            + "set 0 least = BAD_VALUE; set 1 most = BAD_VALUE; set 0 4 = BAD_VALUE; set 1 256 = BAD_VALUE; count 3 = 0; count 4 = 0; count 15 = 0");
         sentence("NONE if it is so already.", "set 0 0 = NONE; set 1 0 = NONE; set 0 2; set 0 2 = NONE; set 1 1; set 1 1 = NONE;"
             + "count 15 = 2; begin; set 0 2 = NONE; set 1 1 = NONE; count 15 = 3");
     }
@@ -85,7 +85,7 @@ final class SearchActsSentences extends Sentences {
     private void stepRefuses() {
         sentence("; BAD_VALUE;",
             FIVE + "step 0 = BAD_VALUE; begin; step 0 = BAD_VALUE; step -1 = BAD_VALUE; step 201 = BAD_VALUE; step least = BAD_VALUE;"
-                + "step most = BAD_VALUE; count 11 = 0; count 15 = 4; giveUp; step 201 = BAD_VALUE");
+                + "step most = BAD_VALUE; step 257 = BAD_VALUE; step 65537 = BAD_VALUE; count 11 = 0; count 15 = 4; giveUp; step 201 = BAD_VALUE");
         sentence("NOT_POSSIBLE if no node is open",
             "step 1 = NOT_POSSIBLE; step 200 = NOT_POSSIBLE; begin; step 1 = 1; step 1 = NOT_POSSIBLE; begin; giveUp;"
                 + "step 1 = NOT_POSSIBLE; count 15 = 4; undo = 3; step 1 = 1",

@@ -27,6 +27,8 @@ final class TextActsSentences extends Sentences {
                 run.is("type " + sign, ++length);
             }
             run.is("count 16", length).is("addAll", -100).is("clearText", length);
+            run("type 305; type 47; type 49; addAll = -100; clearText; type 49; type 303; type 49; addAll = -101; clearText; type 49;"
+                + "type 47; type 49; type 16443; addAll = -103; clearText; type 49; type 47; type 49; addAll = 1");
         });
         sentence("Returns the length of the text then", "type 49 = 1; type 49 = 2; clearText = 2; type 49 = 1; 78 * type 49; type 49 = 80");
         sentence("; FULL if it has 80 characters.",

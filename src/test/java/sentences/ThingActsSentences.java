@@ -101,6 +101,8 @@ final class ThingActsSentences extends Sentences {
             run("").text("1/1" + ";1/1".repeat(19)).does("addAll = FULL; count 0 = 0");
             run("put 12x1/1").text("5/5").does("addAll = FULL");
             run("put 12x1/1").text("5/5!10").does("addAll = FULL");
+            run("put 5x1/1").text("1/1!9" + ";1/1".repeat(7)).does("addAll = FULL; remove 0; addAll = UNKNOWN");
+            run("put 12x1/1; begin; step 1").text("5/5").does("addAll = FULL; count 6 = 1; count 8 = 12");
         });
         sentence("; UNKNOWN if a bar names a thing that does not come ahead of it.", () -> {
             run("").text("5/5!0").does("addAll = UNKNOWN");

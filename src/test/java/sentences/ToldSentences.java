@@ -40,8 +40,10 @@ final class ToldSentences extends Sentences {
             "put 12x1/1; begin; step 1; thing 0 4 = 1; thing 11 4 = 1; begin; thing 11 4 = 0");
         sentence("Returns the number", "put 7/8; thing 0 0 = 7; thing 0 1 = 8; thing 0 2 = 0; thing 0 3 = 0; thing 0 4 = 0");
         sentence("UNKNOWN", "thing 0 0 = UNKNOWN; put 5/5; thing 1 0 = UNKNOWN; thing least 0 = UNKNOWN; thing most 0 = UNKNOWN;"
-            + "thing 1 5 = UNKNOWN; thing -1 -1 = UNKNOWN; thing 12 0 = UNKNOWN; remove 0; thing 0 0 = UNKNOWN");
-        sentence("BAD_VALUE.", "put 5/5; thing 0 5 = BAD_VALUE; thing 0 -1 = BAD_VALUE; thing 0 least = BAD_VALUE; thing 0 most = BAD_VALUE");
+            + "thing 1 5 = UNKNOWN; thing -1 -1 = UNKNOWN; thing 12 0 = UNKNOWN; thing 16 0 = UNKNOWN;"
+            + "thing 32 0 = UNKNOWN; thing 256 0 = UNKNOWN; thing 65536 0 = UNKNOWN; remove 0; thing 0 0 = UNKNOWN");
+        sentence("BAD_VALUE.", "put 5/5; thing 0 5 = BAD_VALUE; thing 0 -1 = BAD_VALUE; thing 0 least = BAD_VALUE;"
+            + "thing 0 most = BAD_VALUE; thing 0 8 = BAD_VALUE; thing 0 32 = BAD_VALUE; thing 0 256 = BAD_VALUE; thing 0 65536 = BAD_VALUE");
     }
 
     /** By the choice 1 and the order 0, ENDLESS is branched on the things 0, 1 and 2, each time below the child with it in. */
@@ -88,8 +90,10 @@ final class ToldSentences extends Sentences {
         sentence("Returns the number", FIVE + "begin; step 1; node 1 0 = 0; node 1 1 = 1; node 1 2 = 0; node 1 3 = 158; node 1 4 = 0;"
             + "node 1 5 = 1; node 1 6 = 0; node 1 7 = 0b00010");
         sentence("; UNKNOWN", "node 0 0 = UNKNOWN; node 0 9 = UNKNOWN; begin; node 1 0 = UNKNOWN; node least 0 = UNKNOWN;"
-            + "node most 0 = UNKNOWN; node 400 0 = UNKNOWN; node -1 9 = UNKNOWN; undo; node 0 0 = UNKNOWN");
-        sentence("; BAD_VALUE.", "begin; node 0 8 = BAD_VALUE; node 0 -1 = BAD_VALUE; node 0 least = BAD_VALUE; node 0 most = BAD_VALUE");
+            + "node most 0 = UNKNOWN; node 400 0 = UNKNOWN; node -1 9 = UNKNOWN; node 512 0 = UNKNOWN; node 256 0 = UNKNOWN;"
+            + "node 4096 0 = UNKNOWN; node 65536 0 = UNKNOWN; undo; node 0 0 = UNKNOWN");
+        sentence("; BAD_VALUE.", "begin; node 0 8 = BAD_VALUE; node 0 -1 = BAD_VALUE; node 0 least = BAD_VALUE; node 0 most = BAD_VALUE;"
+            + "node 0 16 = BAD_VALUE; node 0 32 = BAD_VALUE; node 0 256 = BAD_VALUE; node 0 65536 = BAD_VALUE");
     }
 
     private void next() {
@@ -118,7 +122,7 @@ final class ToldSentences extends Sentences {
                 + "branchOf least 3 = UNKNOWN; branchOf most 0 = UNKNOWN; branchOf 399 0 = UNKNOWN; undo; branchOf 0 0 = UNKNOWN",
             FIVE + "begin; step 200; setRoom 9; branchOf 0 0 = UNKNOWN");
         sentence("; BAD_VALUE", "begin; branchOf 0 -1 = BAD_VALUE; branchOf 0 3 = BAD_VALUE; branchOf 0 least = BAD_VALUE;"
-            + "branchOf 0 most = BAD_VALUE");
+            + "branchOf 0 most = BAD_VALUE; branchOf 0 4 = BAD_VALUE; branchOf 0 32 = BAD_VALUE; branchOf 0 256 = BAD_VALUE");
         sentence("; NONE if no thing is free.",
             "begin; branchOf 0 0 = NONE; branchOf 0 1 = NONE; branchOf 0 2 = NONE",
             "put 9/50; begin; branchOf 0 0 = NONE; branchOf 0 1 = NONE; branchOf 0 2 = NONE",
@@ -171,7 +175,7 @@ final class ToldSentences extends Sentences {
                 + "bestSum = 156; begin; bestSum = 156; count 8 = 0; step 200; count 8 = 156",
             "put 60/10 50/9 50/9 50/9; setRoom 27; bestSum = 150; bar 1 2 true; bestSum = 110; bar 1 3 true; bar 2 3 true; bestSum = 110;"
                 + "bar 0 1 true; bar 0 2 true; bestSum = 110; bar 0 3 true; bestSum = 60", ENDLESS + "bestSum = 10");
-        sentence("Returns the sum.", "bestSum = 0; put 5/30; bestSum = 5; setRoom 29; bestSum = 0; put 11x99/1; bestSum = 1089; setRoom 0;"
+        sentence("Returns the sum.", FIVE + "begin; step 1; count 8 = 157; bestSum = 159; giveUp; bestSum = 159", "bestSum = 0; put 5/30; bestSum = 5; setRoom 29; bestSum = 0; put 11x99/1; bestSum = 1089; setRoom 0;"
             + "bestSum = 0; count 15 = 4");
     }
 
@@ -188,7 +192,8 @@ final class ToldSentences extends Sentences {
         sentence(", 15 for the states in the history", "count 15 = 0; put 3x1/1; count 15 = 3; put 2x1/1; count 15 = 4; undo; count 15 = 3");
         sentence(", 16 for the length of the text", "count 16 = 0; type 49; count 16 = 1; 80 * type 49; count 16 = 80; clearText; count 16 = 0");
         sentence("Returns the number; BAD_VALUE.", "count 0 = 0; count 16 = 0; count 17 = BAD_VALUE; count -1 = BAD_VALUE; count least = BAD_VALUE;"
-            + "count most = BAD_VALUE; begin; count 17 = BAD_VALUE");
+            + "count most = BAD_VALUE; begin; count 17 = BAD_VALUE; count 32 = BAD_VALUE; count 37 = BAD_VALUE; count 64 = BAD_VALUE;"
+            + "count 256 = BAD_VALUE; count 261 = BAD_VALUE; count 65536 = BAD_VALUE; count -16 = BAD_VALUE");
     }
 
     private void countsOfSearch() {
