@@ -52,9 +52,11 @@ final class BoundsSentences extends Sentences {
     private void orderOfTheBound() {
         sentence("and then, of the free ones, taken in the order of worth divided by weight, the greatest first",
             "put 10/10 20/10 30/10; thing 0 2 = 2; thing 1 2 = 1; thing 2 2 = 0; setRoom 10; boundOf 0 0 = 30; setRoom 20;"
-                + "boundOf 0 0 = 50; boundOf 0b001 0 = 40; boundOf 0 0b100 = 30; heelOf 0 0 = 0b110; setRoom 15; boundOf 0 0 = 40",
+                + "boundOf 0 0 = 50; boundOf 0b001 0 = 40; boundOf 0 0b100 = 30; heelOf 0 0 = 0b110; setRoom 15;"
+                + "boundOf 0 0 = 40",
             "put 99/50 10/1 50/10; thing 0 2 = 2; thing 1 2 = 0; thing 2 2 = 1",
-            "put 10/10 20/10; remove 0 = 1; thing 0 2 = 0; add 30 10 = 1; thing 0 2 = 1; thing 1 2 = 0; add 1 50 = 2; thing 2 2 = 2");
+            "put 10/10 20/10; remove 0 = 1; thing 0 2 = 0; add 30 10 = 1; thing 0 2 = 1; thing 1 2 = 0; add 1 50 = 2;"
+                + "thing 2 2 = 2");
         sentence("(compared as fractions",
             "put 50/49 49/48; thing 0 2 = 1; thing 1 2 = 0",
             "put 49/48 50/49; thing 0 2 = 0; thing 1 2 = 1",
@@ -90,7 +92,8 @@ final class BoundsSentences extends Sentences {
                 + "setRoom 56; boundOf 0 0 = 150",
             "put 50/5 60/10 4/1 3/1; setRoom 14; boundOf 0 0 = 104; boundOf 0 0b0010 = 57");
         sentence("(Bars between free things do not matter for it.)",
-            "put 10/5 9/5; setRoom 10; boundOf 0 0 = 19; bar 0 1 true; boundOf 0 0 = 19; heelOf 0 0 = 0b01; boundOf 0b01 0 = 10",
+            "put 10/5 9/5; setRoom 10; boundOf 0 0 = 19; bar 0 1 true; boundOf 0 0 = 19; heelOf 0 0 = 0b01;"
+                + "boundOf 0b01 0 = 10",
             "put 12/4 10/5 9/5; bar 1 2 true; setRoom 14; boundOf 0 0 = 31; boundOf 0b001 0 = 31; boundOf 0b010 0 = 22;"
                 + "setRoom 11; boundOf 0 0 = 25");
     }

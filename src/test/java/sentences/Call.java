@@ -59,9 +59,4 @@ record Call(String name, int one, int two, int three) {
             default: throw new IllegalArgumentException("no call is named " + name);
         }
     }
-
-    /** The errors and NONE: for addAll() the faults of the text, too. */
-    static boolean isRefused(int answer) {
-        return answer < 0;
-    }
 }

@@ -22,10 +22,12 @@ final class ChoiceSentences extends Sentences {
     private void firstThatDoesNotFit() {
         sentence("0 the first free one in the order of the bound that does not fit whole",
             FIVE + "begin; branchOf 0 0 = 1; step 1; node 1 1 = 1; branchOf 1 0 = 3; branchOf 2 0 = 4",
-            "put 20/10 30/10 40/10 50/10; setRoom 20; begin = 90; branchOf 0 0 = 1; giveUp; setRoom 19; begin; branchOf 0 0 = 2;"
-                + "giveUp; setRoom 39; begin; branchOf 0 0 = 0; giveUp; setRoom 10; begin; branchOf 0 0 = 2",
+            "put 20/10 30/10 40/10 50/10; setRoom 20; begin = 90; branchOf 0 0 = 1; giveUp; setRoom 19; begin;"
+                + "branchOf 0 0 = 2; giveUp; setRoom 39; begin; branchOf 0 0 = 0; giveUp; setRoom 10; begin;"
+                + "branchOf 0 0 = 2",
             "put 50/5 99/50 1/1; setRoom 54; begin; branchOf 0 0 = 1; giveUp; setRoom 55; begin; branchOf 0 0 = 2",
-            "put 9/1 8/2 7/3 6/4; bar 0 1 true; setRoom 9; begin = 28; heelOf 0 0 = 0b1101; branchOf 0 0 = 3; step 1; node 1 1 = 3",
+            "put 9/1 8/2 7/3 6/4; bar 0 1 true; setRoom 9; begin = 28; heelOf 0 0 = 0b1101; branchOf 0 0 = 3; step 1;"
+                + "node 1 1 = 3",
             ENDLESS + "begin; branchOf 0 0 = 5; step 1; branchOf 1 0 = 6; branchOf 2 0 = 4");
     }
 
@@ -64,8 +66,8 @@ final class ChoiceSentences extends Sentences {
                 + "begin; branchOf 0 2 = 0",
             "put 4/6 9/6 6/5 7/3; setRoom 9; begin = 16; branchOf 0 2 = 0");
         sentence("(a child that is not possible counts as 0)",
-            "put 9/5 50/31 9/25; bar 0 1 true; begin = 18; boundOf 0b010 0 = NOT_POSSIBLE; branchOf 0 2 = 0; giveUp; setRoom 29;"
-                + "begin; boundOf 0b101 0 = NOT_POSSIBLE; branchOf 0 2 = 0");
+            "put 9/5 50/31 9/25; bar 0 1 true; begin = 18; boundOf 0b010 0 = NOT_POSSIBLE; branchOf 0 2 = 0; giveUp;"
+                + "setRoom 29; begin; boundOf 0b101 0 = NOT_POSSIBLE; branchOf 0 2 = 0");
         sentence(", of several the one for which the lesser one is the least",
             "put 3x9/10 4/10; setRoom 10; boundOf 0 0b0001 = 9; boundOf 0b0001 0 = 9; boundOf 0 0b1000 = 9;"
                 + "boundOf 0b1000 0 = 4; begin; branchOf 0 2 = 3; set 1 2; heelOf 0 0 = 0b0001");

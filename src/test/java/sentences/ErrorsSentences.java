@@ -80,11 +80,12 @@ final class ErrorsSentences extends Sentences {
 
     private void none() {
         sentence("NONE is no error; it is returned only if no error applies.",
-            "put 5/5 6/6; bar 0 1 false = NONE; setRoom 30 = NONE; begin; bar 0 1 false = NOT_POSSIBLE; setRoom 30 = NOT_POSSIBLE;"
-                + "bar 0 0 false = BAD_VALUE; bar 0 2 false = UNKNOWN",
+            "put 5/5 6/6; bar 0 1 false = NONE; setRoom 30 = NONE; begin; bar 0 1 false = NOT_POSSIBLE;"
+                + "setRoom 30 = NOT_POSSIBLE; bar 0 0 false = BAD_VALUE; bar 0 2 false = UNKNOWN",
             "begin; node 0 0 = NONE; node 0 1 = NONE; node 1 0 = UNKNOWN; node 1 1 = UNKNOWN; node 0 8 = BAD_VALUE;"
                 + "branchOf 0 0 = NONE; branchOf 0 -1 = BAD_VALUE; branchOf -1 0 = UNKNOWN",
-            "count 8 = NONE; count 17 = BAD_VALUE; count -1 = BAD_VALUE; set 0 0 = NONE; set 0 -1 = BAD_VALUE; set 3 0 = UNKNOWN",
+            "count 8 = NONE; count 17 = BAD_VALUE; count -1 = BAD_VALUE; set 0 0 = NONE; set 0 -1 = BAD_VALUE;"
+                + "set 3 0 = UNKNOWN",
             "put 5/5; restore = NONE; undo = 0; undo = NONE; next = NONE; giveUp = NONE; count 9 = NONE; count 10 = NONE");
     }
 

@@ -31,18 +31,19 @@ final class HistorySentences extends Sentences {
                 + "count 15 = 4; add 6 6; count 15 = 4; undo = 3; undo = 2; undo = 1; undo = 0; undo = NONE; count 15 = 0",
             WIDE + "begin; 9 * step 1 = 1; count 15 = 4; 9 * undo; count 15 = 0; count 11 = 5");
         sentence("; when one more is recorded, the oldest one is dropped;",
-            "put 1/1 2/2 3/3 4/4 5/5 6/6; undo = 3; count 0 = 5; undo = 2; count 0 = 4; undo = 1; count 0 = 3; undo = 0; count 0 = 2;"
-                + "undo = NONE; count 0 = 2; thing 0 0 = 1; thing 1 0 = 2",
+            "put 1/1 2/2 3/3 4/4 5/5 6/6; undo = 3; count 0 = 5; undo = 2; count 0 = 4; undo = 1; count 0 = 3; undo = 0;"
+                + "count 0 = 2; undo = NONE; count 0 = 2; thing 0 0 = 1; thing 1 0 = 2",
             "put 4x1/1; undo = 3; undo = 2; undo = 1; undo = 0; count 0 = 0",
             "put 5x1/1; undo = 3; undo = 2; undo = 1; undo = 0; count 0 = 1",
-            "put 5x1/1; undo = 3; undo = 2; add 7 7 = 3; add 8 8 = 4; add 9 9 = 5; count 15 = 4; undo = 3; thing 4 0 = 8; undo = 2;"
-                + "thing 3 0 = 7; undo = 1; undo = 0; count 0 = 2; undo = NONE",
+            "put 5x1/1; undo = 3; undo = 2; add 7 7 = 3; add 8 8 = 4; add 9 9 = 5; count 15 = 4; undo = 3; thing 4 0 = 8;"
+                + "undo = 2; thing 3 0 = 7; undo = 1; undo = 0; count 0 = 2; undo = NONE",
             "put 11x1/1; undo = 3; undo = 2; undo = 1; undo = 0; count 0 = 7; undo = NONE");
         sentence("; undo() removes and restores the latest one.",
             "add 5 5; setRoom 9; undo = 1; count 1 = 30; count 0 = 1; undo = 0; count 0 = 0; undo = NONE; setRoom 9 = 30",
             "add 5 5; undo = 0; add 6 6 = 0; thing 0 0 = 6; count 15 = 1; undo = 0; count 0 = 0; undo = NONE",
-            FIVE + "begin; step 1; step 1; undo = 3; count 6 = 3; count 8 = 157; count 11 = 1; node 2 4 = 0; undo = 2; count 6 = 1;"
-                + "count 8 = 0; node 0 4 = 0; node 1 4 = UNKNOWN; undo = 1; count 6 = 0; count 8 = NONE; undo = 0; count 0 = 4");
+            FIVE + "begin; step 1; step 1; undo = 3; count 6 = 3; count 8 = 157; count 11 = 1; node 2 4 = 0; undo = 2;"
+                + "count 6 = 1; count 8 = 0; node 0 4 = 0; node 1 4 = UNKNOWN; undo = 1; count 6 = 0; count 8 = NONE;"
+                + "undo = 0; count 0 = 4");
         sentence("Each call of a method that is described as an act, and returns no error and not NONE, records the state that was"
             + " before it.", this::actsAreRecorded);
         snapshot();

@@ -106,7 +106,8 @@ final class SearchSentences extends Sentences {
             "put 1/1; begin; step 1; count 8 = 1; count 9 = 0b1",
             "put 7/1 3/6 7/3 7/2; setRoom 5; begin = 18; step 1; count 8 = 14; count 9 = 0b1001; node 2 6 = 0b0100;"
                 + "heelOf 0b0100 0 = 0b0101; step 1; node 2 4 = 4; count 8 = 14; count 9 = 0b1001",
-            FIVE + "set 0 2; begin; step 1; heelOf 0 0b00010 = 0b10101; step 1; node 1 4 = 4; count 8 = 157; count 9 = 0b10101");
+            FIVE + "set 0 2; begin; step 1; heelOf 0 0b00010 = 0b10101; step 1; node 1 4 = 4; count 8 = 157;"
+                + "count 9 = 0b10101");
         sentence("If the bound of the node is not greater than the sum of its heel, it is closed (reason 2).",
             "put 5/5; begin = 5; step 1 = 1; node 0 4 = 2; count 6 = 1; count 7 = 0; count 13 = 1",
             FIVE + "begin; step 2; node 2 3 = 159; node 2 4 = 2; count 6 = 3; count 13 = 1",
@@ -115,31 +116,32 @@ final class SearchSentences extends Sentences {
     }
 
     private void branched() {
-        sentence("Otherwise it is branched on a free thing: one child with that thing out, and then (newer) one with it in;",
+        sentence("Otherwise it is branched on a free thing: one child with that thing out, and then (newer) one with it "
+                + "in;",
             FIVE + "begin; branchOf 0 0 = 1; step 1; node 0 4 = 4; count 6 = 3; node 1 0 = 0; node 1 1 = 1; node 1 2 = 0;"
-                + "node 1 6 = 0; node 1 7 = 0b00010; node 1 5 = 1; node 2 0 = 0; node 2 1 = 1; node 2 2 = 1; node 2 6 = 0b00010;"
-                + "node 2 7 = 0; node 2 5 = 1",
-            WIDE + "begin; step 3; node 5 0 = 2; node 5 1 = 1; node 5 6 = 0b01; node 5 7 = 0b10; node 6 6 = 0b11; node 6 7 = 0;"
-                + "node 3 7 = 0b11; node 4 6 = 0b10; node 4 7 = 0b01; node 4 5 = 2");
-        sentence("children that are not possible, or whose bound is not greater than the best sum so far, are cut off at once"
-            + " (reason 3), the others are open then.",
+                + "node 1 6 = 0; node 1 7 = 0b00010; node 1 5 = 1; node 2 0 = 0; node 2 1 = 1; node 2 2 = 1;"
+                + "node 2 6 = 0b00010; node 2 7 = 0; node 2 5 = 1",
+            WIDE + "begin; step 3; node 5 0 = 2; node 5 1 = 1; node 5 6 = 0b01; node 5 7 = 0b10; node 6 6 = 0b11;"
+                + "node 6 7 = 0; node 3 7 = 0b11; node 4 6 = 0b10; node 4 7 = 0b01; node 4 5 = 2");
+        sentence("children that are not possible, or whose bound is not greater than the best sum so far, are cut off at "
+                + "once (reason 3), the others are open then.",
             "put 17/1 9/8 8/5; setRoom 12; begin = 31; step 1; count 8 = 25; node 1 3 = 25; node 1 4 = 3; node 2 3 = 26;"
                 + "node 2 4 = 0; count 14 = 1; count 7 = 1",
             "put 16/1 14/9 15/6; bar 0 2 true; setRoom 13; begin = 40; step 1; count 8 = 30; node 1 3 = 31; node 1 4 = 0;"
                 + "node 2 3 = 30; node 2 4 = 3; count 14 = 1; count 7 = 1",
-            "put 2x10/10; setRoom 15; begin = 15; step 1; node 1 3 = 10; node 1 4 = 3; node 2 3 = 10; node 2 4 = 3; count 8 = 10;"
-                + "count 14 = 2; count 7 = 0; count 12 = 0; count 5 = 0",
+            "put 2x10/10; setRoom 15; begin = 15; step 1; node 1 3 = 10; node 1 4 = 3; node 2 3 = 10; node 2 4 = 3;"
+                + "count 8 = 10; count 14 = 2; count 7 = 0; count 12 = 0; count 5 = 0",
             FIVE + "begin; step 1; node 1 3 = 158; node 1 4 = 0; node 2 3 = 159; node 2 4 = 0; count 8 = 157; count 14 = 0");
     }
 
     private void numbers() {
-        sentence("Nodes are numbered from 0 (the root) in the order in which they were made, children that were cut off at"
-            + " once, too.",
-            "put 2x10/10; setRoom 15; begin; step 1; count 6 = 3; node 0 4 = 4; node 1 4 = 3; node 2 4 = 3; node 3 4 = UNKNOWN;"
-                + "node -1 4 = UNKNOWN",
-            "put 9/4 20/8 10/3 19/8; setRoom 12; begin = 32; step 2; node 2 4 = 4; node 3 4 = 3; node 4 4 = 3; count 6 = 5;"
-                + "next = 1; step 1; node 5 0 = 1; node 5 4 = 3; node 6 0 = 1; node 6 4 = 0; step 1; node 7 0 = 6; node 8 0 = 6;"
-                + "count 6 = 9",
+        sentence("Nodes are numbered from 0 (the root) in the order in which they were made, children that were cut off "
+                + "at once, too.",
+            "put 2x10/10; setRoom 15; begin; step 1; count 6 = 3; node 0 4 = 4; node 1 4 = 3; node 2 4 = 3;"
+                + "node 3 4 = UNKNOWN; node -1 4 = UNKNOWN",
+            "put 9/4 20/8 10/3 19/8; setRoom 12; begin = 32; step 2; node 2 4 = 4; node 3 4 = 3; node 4 4 = 3;"
+                + "count 6 = 5; next = 1; step 1; node 5 0 = 1; node 5 4 = 3; node 6 0 = 1; node 6 4 = 0; step 1;"
+                + "node 7 0 = 6; node 8 0 = 6; count 6 = 9",
             FIVE + "begin; step 200; begin; step 1; node 1 0 = 0; node 2 0 = 0; node 3 0 = UNKNOWN");
         sentence("A search can make 400 nodes at most",
             WIDE + "begin; step 199 = 199; count 6 = 399; node 398 2 = 1; node 399 4 = UNKNOWN; node 400 4 = UNKNOWN; giveUp;"
@@ -149,11 +151,13 @@ final class SearchSentences extends Sentences {
         sentence(": a step that would make one more is not possible.",
             WIDE + "begin; step 199 = 199; step 1 = FULL; dive = FULL; step 200 = FULL; count 6 = 399; count 11 = 199;"
                 + "count 8 = 10; count 7 = 148; giveUp = 148",
-            WIDE + "begin; step 198 = 198; count 6 = 397; step 2 = FULL; count 6 = 397; count 11 = 198; step 1 = 1; count 6 = 399",
+            WIDE + "begin; step 198 = 198; count 6 = 397; step 2 = FULL; count 6 = 397; count 11 = 198; step 1 = 1;"
+                + "count 6 = 399",
             WIDE + "begin; step 200 = FULL; count 6 = 1; count 8 = 0; count 11 = 0; node 0 4 = 0; count 7 = 1",
             "put 9/5 18/9 8/6 11/3 18/4 19/3 10/4 6/6 16/2 1/3 8/4 13/6; bar 5 8 true; bar 1 6 true; setRoom 32; set 0 2;"
                 + "set 1 1; begin; step 199 = 199; count 6 = 399; count 7 = 73; step 1 = FULL; dive = 1; count 6 = 399;"
-                + "count 7 = 72; undo; set 0 0; step 1 = 1; count 6 = 399; count 7 = 72; count 11 = 200; set 0 2; step 1 = FULL");
+                + "count 7 = 72; undo; set 0 0; step 1 = 1; count 6 = 399; count 7 = 72; count 11 = 200; set 0 2;"
+                + "step 1 = FULL");
     }
 
     private void gap() {
@@ -173,8 +177,8 @@ final class SearchSentences extends Sentences {
 
     private void over() {
         sentence("A search is over when no node is open",
-            FIVE + "count 5 = 0; begin; count 5 = 1; step 1; count 5 = 1; step 1; count 7 = 1; count 5 = 1; step 1; count 7 = 0;"
-                + "count 5 = 0; step 1 = NOT_POSSIBLE; next = NONE; begin = 159; count 5 = 1",
+            FIVE + "count 5 = 0; begin; count 5 = 1; step 1; count 5 = 1; step 1; count 7 = 1; count 5 = 1; step 1;"
+                + "count 7 = 0; count 5 = 0; step 1 = NOT_POSSIBLE; next = NONE; begin = 159; count 5 = 1",
             FIVE + "begin; giveUp; count 5 = 0; begin = 159");
         sentence(": the best choice is the best of all then.", () -> {
             for (int order = 0; order < 3; order++) {

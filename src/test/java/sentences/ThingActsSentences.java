@@ -19,9 +19,10 @@ final class ThingActsSentences extends Sentences {
         section("1");
         sentence("Creates an empty knapsack without things.",
             "count 0 = 0; count 1 = 30; count 2 = 0; count 3 = 0; count 4 = 0; count 5 = 0; count 6 = 0; count 7 = 0;"
-                + "count 8 = NONE; count 9 = NONE; count 10 = NONE; count 11 = 0; count 12 = 0; count 13 = 0; count 14 = 0;"
-                + "count 15 = 0; count 16 = 0; thing 0 0 = UNKNOWN; node 0 0 = UNKNOWN; next = NONE; boundOf 0 0 = 0;"
-                + "heelOf 0 0 = 0; boundOf 1 0 = BAD_VALUE; bestSum = 0; undo = NONE; restore = NONE; giveUp = NONE; addAll = -100",
+                + "count 8 = NONE; count 9 = NONE; count 10 = NONE; count 11 = 0; count 12 = 0; count 13 = 0;"
+                + "count 14 = 0; count 15 = 0; count 16 = 0; thing 0 0 = UNKNOWN; node 0 0 = UNKNOWN; next = NONE;"
+                + "boundOf 0 0 = 0; heelOf 0 0 = 0; boundOf 1 0 = BAD_VALUE; bestSum = 0; undo = NONE; restore = NONE;"
+                + "giveUp = NONE; addAll = -100",
             FIVE + "begin; step 1; keep",
             "count 0 = 0; count 6 = 0; restore = NONE; add 7 7 = 0; count 15 = 1");
     }
@@ -31,10 +32,12 @@ final class ThingActsSentences extends Sentences {
         sentence("Adds a thing.",
             "add 7 9 = 0; count 0 = 1; thing 0 0 = 7; thing 0 1 = 9; thing 0 2 = 0; thing 0 3 = 0; thing 0 4 = 0; add 9 7 = 1;"
                 + "thing 1 0 = 9; thing 1 1 = 7; thing 1 2 = 0; thing 0 2 = 1; count 2 = 0; bestSum = 16");
-        sentence("This is an act.", "setRoom 9; add 7 9 = 0; count 15 = 2; undo = 1; count 0 = 0; count 1 = 9; thing 0 0 = UNKNOWN");
+        sentence("This is an act.",
+            "setRoom 9; add 7 9 = 0; count 15 = 2; undo = 1; count 0 = 0; count 1 = 9; thing 0 0 = UNKNOWN");
         sentence("worth: 1 to 99", "add 1 7 = 0; add 99 7 = 1; add 2 7 = 2; add 98 7 = 3; thing 1 0 = 99; thing 0 0 = 1");
         sentence("weight: 1 to 50", "add 7 1 = 0; add 7 50 = 1; add 7 2 = 2; add 7 49 = 3; thing 1 1 = 50; thing 0 1 = 1");
-        sentence("Returns its number", "add 1 1 = 0; add 1 1 = 1; remove 0 = 1; add 1 1 = 1; undo; undo; add 1 1 = 2; add 1 1 = 3");
+        sentence("Returns its number",
+            "add 1 1 = 0; add 1 1 = 1; remove 0 = 1; add 1 1 = 1; undo; undo; add 1 1 = 2; add 1 1 = 3");
         sentence("BAD_VALUE",
             "add 0 1 = BAD_VALUE; add 100 1 = BAD_VALUE; add 1 0 = BAD_VALUE; add 1 51 = BAD_VALUE; add -5 -5 = BAD_VALUE;"
                 + "add least least = BAD_VALUE; add most most = BAD_VALUE; add 257 1 = BAD_VALUE; add 1 65537 = BAD_VALUE;"
@@ -118,8 +121,8 @@ final class ThingActsSentences extends Sentences {
     private void remove() {
         section("4");
         sentence("Removes a thing",
-            "put 11/1 22/2 33/3; remove 1 = 2; thing 0 0 = 11; thing 1 0 = 33; thing 1 1 = 3; thing 2 0 = UNKNOWN; thing 0 2 = 0;"
-                + "thing 1 2 = 1; bestSum = 44",
+            "put 11/1 22/2 33/3; remove 1 = 2; thing 0 0 = 11; thing 1 0 = 33; thing 1 1 = 3; thing 2 0 = UNKNOWN;"
+                + "thing 0 2 = 0; thing 1 2 = 1; bestSum = 44",
             "put 30/3 10/2 20/1; thing 0 2 = 1; remove 0 = 2; thing 0 2 = 1; thing 1 2 = 0; heelOf 0 0 = 0b11",
             "put 12x5/5; remove 11 = 11; remove 0 = 10; count 0 = 10; boundOf 0b1111111111 0 = NOT_POSSIBLE; setRoom 50;"
                 + "boundOf 0b1111111111 0 = 50; boundOf 0b10000000000 0 = BAD_VALUE");
@@ -132,7 +135,8 @@ final class ThingActsSentences extends Sentences {
                 + "thing 1 0 = 22; thing 0 3 = 0b10; thing 1 3 = 0b01; count 2 = 1");
         sentence("thing: a thing",
             "put 3x5/5; remove -1 = UNKNOWN; remove 3 = UNKNOWN; remove 2 = 2; remove 2 = UNKNOWN; remove 0 = 1; remove 0 = 0");
-        sentence("Returns how many are left", "put 4x5/5; remove 3 = 3; remove 1 = 2; remove 0 = 1; remove 0 = 0; remove 0 = UNKNOWN");
+        sentence("Returns how many are left",
+            "put 4x5/5; remove 3 = 3; remove 1 = 2; remove 0 = 1; remove 0 = 0; remove 0 = UNKNOWN");
         sentence("UNKNOWN", "remove 0 = UNKNOWN; put 5/5; remove 1 = UNKNOWN; remove -1 = UNKNOWN; remove least = UNKNOWN;"
             + "remove most = UNKNOWN; remove 12 = UNKNOWN; remove 32 = UNKNOWN; begin; remove 1 = UNKNOWN; count 0 = 1");
         sentence("NOT_POSSIBLE if a search goes on.",
@@ -146,15 +150,17 @@ final class ThingActsSentences extends Sentences {
             "put 10/5 9/5 8/5; bar 2 0 true = 1; thing 0 3 = 0b100; thing 2 3 = 0b001; boundOf 0b101 0 = NOT_POSSIBLE;"
                 + "bar 0 2 false = 0; thing 0 3 = 0; thing 2 3 = 0; boundOf 0b101 0 = 27; bestSum = 27");
         sentence("This is an act.",
-            "put 5/5 6/6; bar 0 1 true = 1; count 15 = 3; bar 1 0 false = 0; count 15 = 4; undo = 3; thing 0 3 = 0b10; undo = 2;"
-                + "thing 0 3 = 0; thing 1 3 = 0; count 0 = 2");
+            "put 5/5 6/6; bar 0 1 true = 1; count 15 = 3; bar 1 0 false = 0; count 15 = 4; undo = 3; thing 0 3 = 0b10;"
+                + "undo = 2; thing 0 3 = 0; thing 1 3 = 0; count 0 = 2");
         sentence("one: a thing other: another thing",
             "put 12x5/5; bar 11 0 true = 1; bar 0 11 false = 0; bar 0 0 true = BAD_VALUE; bar 12 0 true = UNKNOWN;"
                 + "bar 0 12 true = UNKNOWN; bar -1 0 true = UNKNOWN; bar 0 -1 true = UNKNOWN");
         sentence("bar: whether they bar each other then",
-            "put 5/5 6/6; bar 0 1 false = NONE; bar 0 1 true = 1; bar 0 1 true = NONE; bar 0 1 false = 0; bar 0 1 false = NONE");
+            "put 5/5 6/6; bar 0 1 false = NONE; bar 0 1 true = 1; bar 0 1 true = NONE; bar 0 1 false = 0;"
+                + "bar 0 1 false = NONE");
         sentence("Returns how many pairs bar each other then;",
-            "put 4x5/5; bar 0 1 true = 1; bar 2 1 true = 2; bar 3 0 true = 3; bar 1 0 false = 2; bar 1 2 false = 1; bar 0 3 false = 0");
+            "put 4x5/5; bar 0 1 true = 1; bar 2 1 true = 2; bar 3 0 true = 3; bar 1 0 false = 2; bar 1 2 false = 1;"
+                + "bar 0 3 false = 0");
         sentence("UNKNOWN (one or other)",
             "bar 0 1 true = UNKNOWN; put 5/5; bar 0 1 true = UNKNOWN; bar 1 0 true = UNKNOWN; bar 1 1 true = UNKNOWN;"
                 + "bar -1 0 true = UNKNOWN; bar 0 least true = UNKNOWN; bar most 0 false = UNKNOWN; bar 32 0 true = UNKNOWN;"
@@ -162,11 +168,11 @@ final class ThingActsSentences extends Sentences {
         sentence("BAD_VALUE if both are the same",
             "put 5/5 6/6; bar 0 0 true = BAD_VALUE; bar 1 1 false = BAD_VALUE; begin; bar 1 1 true = BAD_VALUE; count 2 = 0");
         sentence("NOT_POSSIBLE if a search goes on",
-            "put 5/5 6/6; begin; bar 0 1 true = NOT_POSSIBLE; bar 0 1 false = NOT_POSSIBLE; count 2 = 0; step 1; bar 0 1 true = 1;"
-                + "count 8 = NONE");
+            "put 5/5 6/6; begin; bar 0 1 true = NOT_POSSIBLE; bar 0 1 false = NOT_POSSIBLE; count 2 = 0; step 1;"
+                + "bar 0 1 true = 1; count 8 = NONE");
         sentence("NONE if it is so already.",
-            "put 5/5 6/6; bar 0 1 false = NONE; bar 1 0 false = NONE; bar 0 1 true = 1; bar 0 1 true = NONE; bar 1 0 true = NONE;"
-                + "count 2 = 1; count 15 = 3; begin; step 200; bar 0 1 true = NONE; count 8 = 6");
+            "put 5/5 6/6; bar 0 1 false = NONE; bar 1 0 false = NONE; bar 0 1 true = 1; bar 0 1 true = NONE;"
+                + "bar 1 0 true = NONE; count 2 = 1; count 15 = 3; begin; step 200; bar 0 1 true = NONE; count 8 = 6");
     }
 
     private void setRoom() {
@@ -174,11 +180,13 @@ final class ThingActsSentences extends Sentences {
         sentence("Sets the room.",
             "put 10/10 20/20; setRoom 20 = 30; count 1 = 20; bestSum = 20; boundOf 0b11 0 = NOT_POSSIBLE; setRoom 10;"
                 + "bestSum = 10; heelOf 0 0 = 0b01; setRoom 9; bestSum = 0");
-        sentence("This is an act.", "setRoom 9 = 30; count 15 = 1; setRoom 8 = 9; count 15 = 2; undo = 1; count 1 = 9; undo = 0; count 1 = 30");
+        sentence("This is an act.",
+            "setRoom 9 = 30; count 15 = 1; setRoom 8 = 9; count 15 = 2; undo = 1; count 1 = 9; undo = 0; count 1 = 30");
         sentence("room: 0 to 200", "setRoom 0 = 30; setRoom 200 = 0; setRoom 1 = 200; setRoom 199 = 1; count 1 = 199");
         sentence("Returns the previous one;", "setRoom 7 = 30; setRoom 8 = 7; setRoom 30 = 8; setRoom 0 = 30; setRoom 5 = 0");
-        sentence("BAD_VALUE", "setRoom -1 = BAD_VALUE; setRoom 201 = BAD_VALUE; setRoom least = BAD_VALUE; setRoom most = BAD_VALUE;"
-            + "setRoom 256 = BAD_VALUE; begin; setRoom 201 = BAD_VALUE; count 1 = 30");
+        sentence("BAD_VALUE",
+            "setRoom -1 = BAD_VALUE; setRoom 201 = BAD_VALUE; setRoom least = BAD_VALUE; setRoom most = BAD_VALUE;"
+                + "setRoom 256 = BAD_VALUE; begin; setRoom 201 = BAD_VALUE; count 1 = 30");
         sentence("NOT_POSSIBLE if a search goes on",
             "begin; setRoom 5 = NOT_POSSIBLE; setRoom 30 = NOT_POSSIBLE; count 1 = 30; step 1; setRoom 5 = 30; count 6 = 0");
         sentence("NONE if it is so already.",
