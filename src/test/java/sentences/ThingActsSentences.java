@@ -60,6 +60,7 @@ final class ThingActsSentences extends Sentences {
             run("").text("11/1;22/2").does("addAll = 2; count 16 = 9; addAll = 4; thing 2 0 = 11; thing 3 0 = 22; clearText = 9");
         });
         sentence(", with their bars", () -> {
+            run("").text("5/5;6/6!0").does("addAll = 2").text("7/7;8/8").does("addAll = 4; count 2 = 1; thing 3 3 = 0");
             run("").text("5/5;6/6!0;7/7;8/8!0!2").does("addAll = 4; count 2 = 3; thing 0 3 = 0b1010; thing 1 3 = 0b0001;"
                 + "thing 2 3 = 0b1000; thing 3 3 = 0b0101; bar 1 0 true = NONE");
         });
@@ -112,6 +113,7 @@ final class ThingActsSentences extends Sentences {
             run("").text("5/5;6/6!1").does("addAll = UNKNOWN").text("5/5;6/6!0").does("addAll = 2");
             run("").text("5/5!1;6/6").does("addAll = UNKNOWN");
             run("").text("5/5;6/6!0;7/7!0!2").does("addAll = UNKNOWN; count 0 = 0; count 2 = 0; count 15 = 0");
+            run("").text("5/5;6/6!9").does("addAll = UNKNOWN").text("5/5").does("addAll = 1").text("7/7!1").does("addAll = UNKNOWN");
             run("put 1/1").text("5/5!1").does("addAll = UNKNOWN").text("5/5!0").does("addAll = 2");
             run("put 10x1/1").text("5/5!10").does("addAll = UNKNOWN; add 1 1 = 10; addAll = 12");
             run("put 10x1/1").text("5/5!9;5/5!10").does("addAll = 12; thing 11 3 = 0b10000000000; thing 9 3 = 0b10000000000");
