@@ -15,6 +15,7 @@ import java.util.regex.Pattern;
 /** The document's face, to the letter, and what can be seen of the rules of ../shared/LANGUAGE.md. */
 public final class RulesTest {
     private static final Path SOURCE = Path.of("src/main/java/BranchedSums.java");
+    private static final Path DOCUMENT = Path.of("../shared/DOC.md");
     private static final Set<String> FACE = Set.of(
         "int add(int,int)", "int addAll()", "int remove(int)", "int bar(int,int,boolean)", "int setRoom(int)",
         "int set(int,int)", "int begin()", "int step(int)", "int dive()", "int giveUp()", "int type(char)",
@@ -26,8 +27,9 @@ public final class RulesTest {
 
     private static final Due DUE = new Due();
 
-    public static void main(String[] args) throws IOException {
+    public static void main(String[] args) throws IOException, IllegalAccessException {
         face();
+        faceOfTheDocument(Files.readString(DOCUMENT, StandardCharsets.UTF_8));
         String code = withoutComments(Files.readString(SOURCE, StandardCharsets.UTF_8));
         words(code);
         library(code);
@@ -77,6 +79,26 @@ public final class RulesTest {
             }
         }
         yes("at most twelve classes", face.getDeclaredClasses().length < 12);
+    }
+
+    /** Line by line, so that a face that is told anew in the document is seen here. */
+    private static void faceOfTheDocument(String document) throws IllegalAccessException {
+        Matcher block = Pattern.compile("(?s)```java\npublic final class BranchedSums \\{\n(.*?)\\}\n```").matcher(document);
+        yes("the document tells the face", block.find());
+        Set<String> told = new TreeSet<>();
+        for (String line : block.group(1).split("\n")) {
+            told.add(line.trim().replaceAll("(boolean|char|int) \\w+(?=[,)])", "$1").replace(", ", ","));
+        }
+        Set<String> seen = new TreeSet<>(Set.of("public BranchedSums();"));
+        for (Method method : BranchedSums.class.getDeclaredMethods()) {
+            if (Modifier.isPublic(method.getModifiers())) seen.add("public " + signature(method) + ";");
+        }
+        for (Field field : BranchedSums.class.getDeclaredFields()) {
+            if (Modifier.isPublic(field.getModifiers())) {
+                seen.add("public static final int " + field.getName() + " = " + field.getInt(null) + ";");
+            }
+        }
+        yes("the face is that of the document, " + told + ", not " + seen, told.equals(seen));
     }
 
     private static String signature(Method method) {
