@@ -5,6 +5,8 @@ import com.sun.source.tree.ClassTree;
 import com.sun.source.tree.CompilationUnitTree;
 import com.sun.source.tree.CompoundAssignmentTree;
 import com.sun.source.tree.ExpressionTree;
+import com.sun.source.tree.ForLoopTree;
+import com.sun.source.tree.LiteralTree;
 import com.sun.source.tree.MethodInvocationTree;
 import com.sun.source.tree.MethodTree;
 import com.sun.source.tree.NewArrayTree;
@@ -12,6 +14,7 @@ import com.sun.source.tree.NewClassTree;
 import com.sun.source.tree.Tree;
 import com.sun.source.tree.TypeCastTree;
 import com.sun.source.tree.VariableTree;
+import com.sun.source.tree.WhileLoopTree;
 import com.sun.source.util.JavacTask;
 import com.sun.source.util.SourcePositions;
 import com.sun.source.util.TreePathScanner;
@@ -26,6 +29,8 @@ import java.util.List;
 import java.util.Map;
 import java.util.Set;
 import java.util.TreeSet;
+import java.util.regex.Matcher;
+import java.util.regex.Pattern;
 import javax.lang.model.element.Element;
 import javax.lang.model.element.ElementKind;
 import javax.lang.model.element.Modifier;
@@ -42,7 +47,8 @@ public final class LanguageTest extends TreePathScanner<Void, Void> {
     private static final Path SOURCE = Path.of("src/main/java/BranchedSums.java");
     private static final Set<Tree.Kind> FORBIDDEN = EnumSet.of(Tree.Kind.THROW, Tree.Kind.TRY, Tree.Kind.CATCH,
         Tree.Kind.SYNCHRONIZED, Tree.Kind.ASSERT, Tree.Kind.LAMBDA_EXPRESSION, Tree.Kind.MEMBER_REFERENCE,
-        Tree.Kind.BINDING_PATTERN, Tree.Kind.INSTANCE_OF, Tree.Kind.IMPORT, Tree.Kind.PACKAGE, Tree.Kind.ANNOTATION);
+        Tree.Kind.BINDING_PATTERN, Tree.Kind.INSTANCE_OF, Tree.Kind.IMPORT, Tree.Kind.PACKAGE, Tree.Kind.ANNOTATION,
+        Tree.Kind.DO_WHILE_LOOP, Tree.Kind.ENHANCED_FOR_LOOP);
     private static final Set<String> TYPES = Set.of("int", "long", "char", "boolean", "int[]", "long[]", "char[]");
     private static final Set<String> LIBRARY = Set.of("java.lang.Math.max", "java.lang.Math.min",
         "java.lang.Integer.bitCount", "java.lang.System.arraycopy");
@@ -59,6 +65,7 @@ public final class LanguageTest extends TreePathScanner<Void, Void> {
     private int rowsRead;
     private int divisions;
     private int made;
+    private int loops;
 
     private LanguageTest(Trees trees, CompilationUnitTree unit) {
         this.trees = trees;
@@ -116,7 +123,26 @@ public final class LanguageTest extends TreePathScanner<Void, Void> {
             boolean isFinal = tree.getModifiers().getFlags().contains(Modifier.FINAL);
             yes(tree.getName() + " is a static constant", isFinal && (type.equals("int") || type.equals("long")));
         }
+        boolean mayBeNull = element.getKind() == ElementKind.FIELD && !element.asType().getKind().isPrimitive();
+        boolean made = tree.getInitializer() instanceof NewClassTree || tree.getInitializer() instanceof NewArrayTree;
+        yes(tree + " is never null", !mayBeNull || made && tree.getModifiers().getFlags().contains(Modifier.FINAL));
         return super.visitVariable(tree, none);
+    }
+
+    /** A method that may answer null says so by the word; its answer is held against null before it is used. */
+    private void isHeldAgainstNull(Element called, Tree call) {
+        if (!textOf(trees.getTree(called)).contains("null;")) return;
+        boolean held = getCurrentPath().getParentPath().getLeaf() instanceof VariableTree variable
+            && textOfMethod().contains("if (" + variable.getName() + " != null) {");
+        yes(call + " is held against null", held);
+    }
+
+    @Override
+    public Void visitLiteral(LiteralTree tree, Void none) {
+        Tree.Kind around = getCurrentPath().getParentPath().getLeaf().getKind();
+        boolean allowed = around == Tree.Kind.NOT_EQUAL_TO || around == Tree.Kind.CONDITIONAL_EXPRESSION;
+        yes("null stands in a test or behind one, in " + textOfMethod(), tree.getKind() != Tree.Kind.NULL_LITERAL || allowed);
+        return super.visitLiteral(tree, none);
     }
 
     private static boolean isOwn(String type) {
@@ -131,6 +157,7 @@ public final class LanguageTest extends TreePathScanner<Void, Void> {
             Element caller = enclosing();
             if (!called.getSimpleName().contentEquals("<init>") && caller != null) {
                 calls.computeIfAbsent(caller, key -> new HashSet<>()).add(called);
+                isHeldAgainstNull(called, tree);
             }
         } else {
             String name = owner + "." + called.getSimpleName();
@@ -174,6 +201,8 @@ public final class LanguageTest extends TreePathScanner<Void, Void> {
         String row = textOf(tree.getExpression());
         String index = textOf(tree.getIndex());
         String method = textOfMethod();
+        boolean ofNumbers = trees.getTypeMirror(getCurrentPath()).getKind().isPrimitive();
+        yes(tree + ": a row of objects may hold null", ofNumbers || method.contains(": null;") || method.contains("= new "));
         yes(tree + ": the index is compared with the length", method.contains(index + " < " + row + ".length"));
         yes(tree + ": the index is compared with 0",
             method.contains(index + " >= 0") || method.contains("int " + index + " = 0"));
@@ -241,6 +270,30 @@ public final class LanguageTest extends TreePathScanner<Void, Void> {
         return super.visitAssignment(tree, none);
     }
 
+    /** A counter that goes one on in the loop's own line, against a bound, and is not set back inside. */
+    @Override
+    public Void visitForLoop(ForLoopTree tree, Void none) {
+        loops++;
+        String step = tree.getUpdate().size() == 1 ? tree.getUpdate().get(0).toString() : "";
+        String counter = step.matches("\\w+\\+\\+;") ? step.substring(0, step.length() - 3) : "?";
+        yes(step + " counts up to a bound, in " + textOfMethod(), tree.getCondition() != null
+            && tree.getCondition().toString().matches("(.*[ (])?" + counter + " <=? \\w+(\\.\\w+)*\\b.*"));
+        yes(counter + " is counted in the loop's line alone, in " + textOfMethod(),
+            !textOf(tree.getStatement()).matches("(?s).*\\b" + counter + "( [-+*|&]?= |\\+\\+|--).*"));
+        return super.visitForLoop(tree, none);
+    }
+
+    /** A counter of the condition goes on in each round. */
+    @Override
+    public Void visitWhileLoop(WhileLoopTree tree, Void none) {
+        loops++;
+        Matcher counter = Pattern.compile("(\\w+) [<>] \\w+").matcher(tree.getCondition().toString());
+        String body = textOf(tree.getStatement());
+        yes("the while has a counter, in " + textOfMethod(), counter.find()
+            && (body.contains(counter.group(1) + "++;") || body.contains(counter.group(1) + "--;")));
+        return super.visitWhileLoop(tree, none);
+    }
+
     private void tellDepths() {
         int most = 0;
         for (Element method : Set.copyOf(calls.keySet())) {
@@ -249,7 +302,7 @@ public final class LanguageTest extends TreePathScanner<Void, Void> {
             most = Math.max(most, depth);
         }
         yes("the only recursion is bestFrom, not " + recursions, recursions.equals(Set.of("bestFrom")));
-        yes("the source was read", most > 2 && rowsRead > 10 && divisions > 2 && made > 10);
+        yes("the source was read", most > 2 && rowsRead > 10 && divisions > 2 && made > 10 && loops > 15);
     }
 
     /** How many calls stand open at most, with the method's own; a recursion's own calls are left out. */
